@@ -268,9 +268,10 @@ public final class ModelTest {
         if (oneOf(2)) {
             t.append("minutes ").append(1 + below(99)).append(';');
         }
-        for (int i = below(oneOf(5) ? 13 : 5); i > 0; i--) {
+        boolean areManyCounting = oneOf(6);
+        for (int i = areManyCounting ? 10 + below(3) : below(oneOf(5) ? 13 : 5); i > 0; i--) {
             String name = groups > 0 && oneOf(3) ? NAMES[8 + below(groups)] : NAMES[below(kinds)];
-            t.append(rule(name)).append(blank()).append(';').append(blank());
+            t.append(areManyCounting ? looseRule(name) : rule(name)).append(blank()).append(';').append(blank());
         }
         return t.toString();
     }
@@ -288,6 +289,16 @@ public final class ModelTest {
             case 6: return "again " + (1 + below(oneOf(3) ? 9 : 2));
             case 7: return "link";
             default: return "shift";
+        }
+    }
+
+    /** One that keeps a number but seldom breaks, so that many of them leave something to be told. */
+    private String looseRule(String name) {
+        switch (below(4)) {
+            case 0: return "run " + name + " 1-" + (2 + below(8));
+            case 1: return "gap " + name + " " + (1 + below(2));
+            case 2: return "most " + name + " " + (2 + below(47));
+            default: return "least " + name + " 1";
         }
     }
 

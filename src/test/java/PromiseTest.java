@@ -12,6 +12,7 @@ public final class PromiseTest {
         readFaults();
         readNumbers();
         readTokens();
+        readFullTape();
         readBeginsAnew();
         poetAndTurn();
         passes();
@@ -34,7 +35,10 @@ public final class PromiseTest {
         endsByLength();
         endsLooksAtTold();
         crowded();
+        endsOfManyNumbers();
+        firstNumbers();
         fullAndCan();
+        lastPlace();
         store();
         best();
         bestIsByNow();
@@ -244,6 +248,24 @@ public final class PromiseTest {
         due("3: length by the latest told", Check.read(x, "length 4;length 6;minutes 3;minutes 2;"), 0);
         due("3: 6", x.count(3), 6);
         due("3: 2", x.count(4), 2);
+    }
+
+    /** Tapes of all 600 bytes, whose last token is of each sort. */
+    private static void readFullTape() {
+        String[] ends = {"kind z;", "kind z", "kind zz", "kind z;length 5", "kind z;group y=z", "kind z;group y=z,", "kind", "zz z", " "};
+        int[] due = {0, 6001, 6001, 6001, 6001, 6001, 6001, 5961, 0};
+        for (int i = 0; i < ends.length; i++) {
+            LinkedVerse x = new LinkedVerse();
+            due("2: 600", Check.feed(x, " ".repeat(600 - ends[i].length()) + ends[i]), 600);
+            due("3: 600 with " + ends[i], x.read(), due[i]);
+        }
+        LinkedVerse y = new LinkedVerse();
+        Check.feed(y, "kind z;kind y;group x=z" + ",y".repeat(288) + ";");
+        due("2: a long group", y.count(10), 600);
+        due("3: a long group", y.read(), 0);
+        due("3: its kinds", y.count(0), 2);
+        Check.feed(y, "link;".repeat(120));
+        due("3: links", y.read(), 602);
     }
 
     private static void readBeginsAnew() {
@@ -769,6 +791,65 @@ public final class PromiseTest {
             due("17: 400 or more", z.ends(), length == 5 ? 1 : -4);
             due("26: 400 or more", z.count(12), 1 + 10 + 100 + 200 + 300 + 400 + (length == 5 ? 0 : 401));
         }
+    }
+
+    /** Twelve rules that keep a number: no number is lost or mixed with another. */
+    private static void endsOfManyNumbers() {
+        for (int where = 0; where < 12; where++) {
+            StringBuilder text = new StringBuilder("kind a;kind b;length 6;");
+            for (int i = 0; i < 12; i++) {
+                text.append(i == where ? "most a 3;" : "least b 1;");
+            }
+            LinkedVerse x = Check.told(text.toString());
+            x.type(1);
+            x.type(2);
+            due("17: number " + where, x.ends(), 1);
+            due("18: three of the first", x.full(3) * 10 + x.full(4), 1);
+            // Behind p: 4 pairs by how many a there may be among the others.
+            due("26: number " + where, x.count(12), 1 + 2 + 4 + 8 + 11 + 12 + 12);
+        }
+    }
+
+    private static void firstNumbers() {
+        for (int where = 0; where < 12; where++) {
+            StringBuilder text = new StringBuilder("kind a;kind b;length 4;");
+            for (int i = 0; i < 12; i++) {
+                text.append(i == where ? "gap a 3;" : "least b 1;");
+            }
+            LinkedVerse x = Check.told(text.toString());
+            x.type(2);
+            x.type(1);
+            due("17: gap " + where, x.ends(), 1);
+            due("19: gap " + where + " before the first", x.can(2), 3);
+            // Behind 3 all rows but aba are good, and aab and bab end alike; behind 4 none is all of a.
+            due("26: gap " + where, x.count(12), 1 + 2 + 4 + 6 + 5);
+        }
+    }
+
+    private static void lastPlace() {
+        LinkedVerse x = room("length 48;at 48-48 b;");
+        for (int place = 1; place < 48; place++) {
+            due("12: place", x.verse(0, 1, -1, -1), place);
+        }
+        x.type(1);
+        x.type(2);
+        due("17: the last place", x.ends(), 1);
+        due("18: 48", x.full(48), 1);
+        due("19: 48", x.can(48), 2);
+        due("18: 47", x.full(47), -1);
+        due("18: 49", x.full(49), -1);
+        due("12: 48", x.verse(9, 3, -1, -1), 48);
+        due("23: 48", x.verseOf(48, 6), 9);
+        due("15: 48", x.worn(48, true), true);
+        due("15: 49", x.worn(49, true), false);
+        due("17: worn", x.ends(), 1);
+        due("19: worn", x.can(48), 2);
+        Check.read(x, "length 48;");
+        for (int place = 1; place <= 48; place++) {
+            due("12: place anew", x.verse(0, -1, -1, -1), place);
+        }
+        due("3: not worn any more", x.verseOf(48, 5), 0);
+        due("26: none worn", x.count(11), 0);
     }
 
     private static void fullAndCan() {
