@@ -504,28 +504,27 @@ public final class LinkedVerse {
                 if (token == END) {
                     break;
                 }
-                readTelling();
+                if (token != WORD) {
+                    setFault(1);
+                } else if (isOneTooMany(number)) {
+                    setFault(2);
+                } else if (number <= SHIFT) {
+                    readRule(number);
+                } else {
+                    readOther(number);
+                }
                 readSign(';');
             }
             size = 0;
             return fault;
         }
 
-        private void readTelling() {
-            if (token != WORD) {
-                setFault(1);
-                return;
-            }
-            if (isOneTooMany(number)) {
-                setFault(2);
-                return;
-            }
-            switch (number) {
+        private void readOther(int keyword) {
+            switch (keyword) {
                 case KIND: readKind(); break;
                 case GROUP: readGroup(); break;
                 case LENGTH: told.length = readNumber(1, MAX_LENGTH); break;
-                case MINUTES: told.minutes = readNumber(1, MAX_MINUTES); break;
-                default: readRule(number); break;
+                default: told.minutes = readNumber(1, MAX_MINUTES); break;
             }
         }
 
@@ -625,31 +624,30 @@ public final class LinkedVerse {
         }
 
         private long readNewName() {
-            readName();
-            if (fault == 0 && told.setNamed(letters) != NONE) {
+            if (fault != 0) {
+                return 0;
+            }
+            scan();
+            if (token != NAME) {
+                setFault(1);
+            } else if (told.setNamed(letters) != NONE) {
                 setFault(3);
             }
             return letters;
         }
 
         private int readToldName() {
-            readName();
-            int set = fault == 0 ? told.setNamed(letters) : 0;
-            if (set == NONE) {
-                setFault(4);
+            if (fault != 0) {
                 return 0;
             }
-            return set;
-        }
-
-        private void readName() {
-            if (fault != 0) {
-                return;
-            }
             scan();
+            int set = token == NAME ? told.setNamed(letters) : 0;
             if (token != NAME) {
                 setFault(1);
+            } else if (set == NONE) {
+                setFault(4);
             }
+            return set;
         }
 
         private void setFault(int kind) {
@@ -787,18 +785,10 @@ public final class LinkedVerse {
         int sumOf(int a, int b) {
             int sum = 0;
             for (int i = 0; i < MAX_KINDS; i++) {
-                if ((a >> i & 1) != 0) {
-                    sum += sumOfKind(i, b);
-                }
-            }
-            return sum;
-        }
-
-        private int sumOfKind(int kind, int set) {
-            int sum = 0;
-            for (int j = 0; j < MAX_KINDS; j++) {
-                if ((set >> j & 1) != 0) {
-                    sum += table[kind * MAX_KINDS + j];
+                for (int j = 0; j < MAX_KINDS && (a >> i & 1) != 0; j++) {
+                    if ((b >> j & 1) != 0) {
+                        sum += table[i * MAX_KINDS + j];
+                    }
                 }
             }
             return sum;
@@ -943,8 +933,8 @@ public final class LinkedVerse {
         private boolean isBroken(int rule, int place) {
             switch (rules.sorts[rule]) {
                 case AGAIN: return isAgain(place, rules.firsts[rule]);
-                case LINK: return place > 1 && !isLinked(place, 1);
-                case SHIFT: return isLinked(place, 2);
+                case LINK: return place > 1 && !values.areLinked(sets[place - 1], sets[place]);
+                case SHIFT: return place > 2 && values.areLinked(sets[place - 2], sets[place]);
                 default:
                     int ahead = numbers[(place - 1) * MAX_RULES + rule];
                     return rules.isBrokenBy(rule, ahead, place, rules.isHad(rule, sets[place]));
