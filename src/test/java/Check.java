@@ -2,14 +2,42 @@
 final class Check {
     private int wrong;
     private int looked;
+    private int sentences;
+    private String about = "";
+
+    /** Runs the test of one sentence of the document; it looks at one answer at least, and throws nothing. */
+    void sentence(String words, Runnable test) {
+        int before = looked;
+        sentences++;
+        about = words + " | ";
+        try {
+            test.run();
+        } catch (RuntimeException e) {
+            wrong++;
+            System.out.println(about + "threw " + e);
+        }
+        if (looked == before) {
+            wrong++;
+            System.out.println(about + "no answer was looked at");
+        }
+        about = "";
+    }
 
     void same(String call, long got, long due) {
         looked++;
         if (got != due) {
             wrong++;
             if (wrong <= 50) {
-                System.out.println(call + " answered " + got + ", due is " + due);
+                System.out.println(about + call + " answered " + got + ", due is " + due);
             }
+        }
+    }
+
+    void same(String call, String got, String due) {
+        looked++;
+        if (!got.equals(due)) {
+            wrong++;
+            System.out.println(about + call + ":\n  " + got + "\n  due is\n  " + due);
         }
     }
 
@@ -52,7 +80,8 @@ final class Check {
     }
 
     void end() {
-        System.out.println(looked + " answers looked at, " + wrong + " not as due");
+        String of = sentences == 0 ? "" : " for " + sentences + " sentences";
+        System.out.println(looked + " answers looked at" + of + ", " + wrong + " not as due");
         if (wrong != 0 || looked == 0) {
             System.exit(1);
         }
