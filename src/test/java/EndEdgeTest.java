@@ -11,6 +11,7 @@ public final class EndEdgeTest {
         check.sentence("on all others that of a TYPE", EndEdgeTest::othersByType);
         check.sentence("and each is GOOD (again aside)", EndEdgeTest::eachIsGood);
         check.sentence("A STATE behind a PLACE: the SETS of it and of the one ahead", EndEdgeTest::statesOfSets);
+        check.sentence("and of each RULE a number", EndEdgeTest::numberOfEachRule);
         check.sentence("of run how many the RUN has that ends there (0: none)", EndEdgeTest::statesOfRun);
         check.sentence("of gap .. (n at most; n, if there was none)", EndEdgeTest::statesOfGap);
         check.sentence("of most how many HAVE it", EndEdgeTest::statesOfMost);
@@ -173,6 +174,34 @@ public final class EndEdgeTest {
         ends(types("kind a;length 4;" + rules, 0, 1), "rules without a number", 1, 1 + 2 + 4 + 2 + 1);
     }
 
+    /** Eleven rules that say the same, and one that says something else, in each order. */
+    private static String twelve(String one, String others, int where) {
+        return others.repeat(where) + one + others.repeat(11 - where);
+    }
+
+    private static void numberOfEachRule() {
+        for (int where = 0; where < 12; where++) {
+            LinkedVerse x = types(Rooms.kinds(2) + "length 6;" + twelve("most a 3;", "least b 1;", where), 1, 2);
+            for (int times = 0; times < 2; times++) {
+                ends(x, "most as rule " + where, 1, 1 + 2 + 4 + 8 + 11 + 12 + 12);
+                fulls(x, "most as rule " + where, 0, 0, 0, 1, 1, 1);
+            }
+            LinkedVerse y = types(Rooms.kinds(2) + "length 4;" + twelve("gap a 3;", "least b 1;", where), 2, 1);
+            // Behind 3 all rows but aba are good, and aab and bab end alike; behind 4 none is all of a.
+            ends(y, "gap as rule " + where, 1, 1 + 2 + 4 + 6 + 5);
+            cans(y, "gap as rule " + where, 3, 3, 3, 3);
+            LinkedVerse z = types(Rooms.kinds(2) + "length 4;" + twelve("run a 1-2;", "gap b 1;", where), 1, 2);
+            ends(z, "run as rule " + where, 1, 1 + 2 + 4 + 4 + 4);
+            fulls(z, "run as rule " + where, 0, 0, 1, 0);
+            LinkedVerse w = types(Rooms.kinds(2) + "length 3;" + twelve("least a 3;", "most b 48;", where), 2, 1);
+            ends(w, "least as rule " + where, 1, 4);
+            fulls(w, "least as rule " + where, 1, 1, 1);
+            LinkedVerse v = types(Rooms.kinds(2) + "length 3;" + twelve("at 2-2 a;", "most b 1;", where), 2, 1);
+            ends(v, "at as rule " + where, 1, 1 + 2 + 2 + 3);
+            fulls(v, "at as rule " + where, 0, 1, 1);
+        }
+    }
+
     private static void statesOfRun() {
         // Behind p: ending in none two, and by each length of a run up to 9 and p.
         ends(types("kind a;length 12;run a 1-9;", 0, 1), "up to 9", 1, 1 + 2 + 4 + 5 + 6 + 7 + 8 + 9 + 10 + 11 + 11 + 11 + 11);
@@ -224,6 +253,28 @@ public final class EndEdgeTest {
         ends(of401("length 3;"), "401 behind the last place", -4, 1 + 15 + 225 + 401);
         ends(of401("length 4;"), "401 behind one ahead of it", -4, 1 + 15 + 225 + 401);
         ends(of401("length 48;"), "401 behind the third of 48", -4, 1 + 15 + 225 + 401);
+        LinkedVerse x = of400("length 48;");
+        tellEmpty(x, 43);
+        ends(x, "400 behind place 48", 1, 1 + 43 + 10 + 100 + 200 + 300 + 400);
+        for (int place = 44; place <= 48; place++) {
+            due("the first of ten on " + place, x.full(place), 0);
+            due("all ten on " + place, x.can(place), 1023);
+        }
+        x.back();
+        ends(x, "500 behind place 48", -4, 1 + 42 + 10 + 100 + 200 + 300 + 400 + 401);
+        LinkedVerse y = of400("length 48;at 48-48 d;");
+        tellEmpty(y, 42);
+        ends(y, "400 behind place 47", 1, 1 + 42 + 10 + 100 + 200 + 300 + 400 + 2 * 10 * 5);
+        due("the first with d", y.full(48), 8);
+        due("those with d", y.can(48), 768);
+        due("all ten ahead", y.can(47), 1023);
+    }
+
+    private static void tellEmpty(LinkedVerse x, int many) {
+        x.poet(0);
+        for (int place = 1; place <= many; place++) {
+            Rooms.tell(x, NONE);
+        }
     }
 
     private static void crowdedUpToThere() {
@@ -374,6 +425,28 @@ public final class EndEdgeTest {
         due("no verse stood", x.can(1), 3);
         due("a text with a fault", Check.read(x, "!"), 1);
         due("changes nothing", x.can(1), 3);
+        nothingOfEarlierOnes();
+    }
+
+    private static void nothingOfEarlierOnes() {
+        LinkedVerse x = types("kind a;length 3;run a 2-2;at 3-3 a;", 1, 0);
+        due("two on the second lead nowhere", x.ends(), 1);
+        cans(x, "the last two", 2, 1, 1);
+        Check.read(x, "kind a;length 2;run a 2-2;");
+        Rooms.addTypes(x, 1, 0);
+        due("they are the end now", x.ends(), 1);
+        fulls(x, "the end now", 0, 0);
+        cans(x, "the end now", 3, 3);
+        LinkedVerse y = Rooms.simple("length 2;link;");
+        Rooms.addTypes(y, 1, 2);
+        due("all free", y.ends(), 1);
+        cans(y, "all free", 3, 3);
+        Rooms.tell(y, 1);
+        Rooms.tell(y, 1);
+        y.worn(1, true);
+        due("the second told", y.ends(), 1);
+        cans(y, "the second told", 1, -1);
+        fulls(y, "the second told", 0, -1);
     }
 
     private static void fullOfNone() {
@@ -454,6 +527,12 @@ public final class EndEdgeTest {
         }
         due("ends", z.ends(), 1);
         cans(z, "every other, and the last", 0x5555, 0x8000);
+        LinkedVerse v = Check.told(Rooms.kinds(4) + "length 2;link;");
+        for (int set = 0; set < 16; set++) {
+            v.type(set);
+        }
+        due("ends", v.ends(), 1);
+        cans(v, "all sixteen but the empty one", 0xfffe, 0xfffe);
         LinkedVerse w = types("kind a;length 4;least a 2;most a 2;run a 2-2;", 0, 1);
         due("ends", w.ends(), 1);
         cans(w, "two side by side", 3, 3, 3, 3);

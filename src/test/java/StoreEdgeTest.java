@@ -5,6 +5,7 @@ public final class StoreEdgeTest {
 
     public static void main(String[] args) {
         check.sentence("THE STORE has VERSES to be told, 20 at most, from 0 on", StoreEdgeTest::twentyVerses);
+        check.sentence("VERSES to be told (up to three WORDS, NONE: none there)", StoreEdgeTest::upToThreeWords);
         check.sentence("A TRY of m: m unlike ones of these", StoreEdgeTest::unlikeOnes);
         check.sentence("one behind the other behind THE SHEET", StoreEdgeTest::behindTheSheet);
         check.sentence("each GOOD (with again) on its PLACE", StoreEdgeTest::eachIsGood);
@@ -59,6 +60,32 @@ public final class StoreEdgeTest {
         best(x, "the last of twenty", 1, 9, 19);
         best(x, "the first behind it", 2, 18, 19, 0);
         best(x, "three of twenty", 3, 18, 0, 19, 1);
+    }
+
+    private static void upToThreeWords() {
+        LinkedVerse x = Rooms.simple("again 1;");
+        x.like(0, 0, 1);
+        x.like(1, 1, 2);
+        x.like(2, 2, 4);
+        int[][] verses = {{NONE, NONE, NONE}, {1, NONE, NONE}, {NONE, 2, NONE}, {NONE, NONE, 4}};
+        for (int[] v : verses) {
+            x.store(v[0], v[1], v[2]);
+        }
+        Rooms.tell(x, 7);
+        best(x, "the third word", 1, 4, 3);
+        int[] words = {4, 2, 1};
+        int[][] picks = {{2, 2}, {3, 4}, {3, 4}};
+        for (int i = 0; i < 3; i++) {
+            x.back();
+            x.verse(0, 7, words[i], NONE);
+            best(x, "not the word " + words[i] + " again", 1, picks[i][1], picks[i][0]);
+        }
+        x.back();
+        x.verse(0, 7, 4, 2);
+        best(x, "the first word", 1, 1, 1);
+        x.back();
+        x.verse(0, 1, 4, 2);
+        best(x, "none of these, but the one without words", 1, 0, 0);
     }
 
     private static void unlikeOnes() {

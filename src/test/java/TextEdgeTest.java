@@ -228,6 +228,9 @@ public final class TextEdgeTest {
         x.feed(';', 0, 0);
         due("the 601st is none of it", x.read(), 6001);
         due("a byte at 599", withBytes(600, "!").read(), 5991);
+        for (String cut : new String[] {"kind a;group b=a", "kind a;group b=a,", "kind a", "length 5", "kind", "kind a;at 1-1"}) {
+            due("600 with " + cut + " last", withBytes(600, cut).read(), 6001);
+        }
         LinkedVerse y = new LinkedVerse();
         Check.feed(y, "kind z;kind y;group x=z" + ",y".repeat(288) + ";");
         due("a group as long as a tape", y.read(), 0);
@@ -374,9 +377,12 @@ public final class TextEdgeTest {
         due("none", read("kind a;", 0).count(1), 0);
         due("eight", read(groups(8), 0).count(1), 8);
         read(groups(9), groups(8).length() * 10 + 2);
-        LinkedVerse x = read(groups(8) + Rooms.kinds(8).substring(7) + "at 1-1 xh;", 0);
+        LinkedVerse x = read(groups(8) + Rooms.kinds(8).substring(7) + "at 1-1 xh;at 1-1 h;", 0);
         due("eight kinds beside them", x.count(0), 8);
         due("the kinds of the eighth", x.ruleOf(0, 1), 1);
+        due("the last of sixteen names", x.ruleOf(1, 1), 128);
+        LinkedVerse y = read(Rooms.kinds(8) + groups(8).substring(7) + "at 1-1 xh;", 0);
+        due("the last of sixteen names, a group's", y.ruleOf(0, 1), 1);
     }
 
     private static void groupNames() {
@@ -493,6 +499,9 @@ public final class TextEdgeTest {
     }
 
     private static void fault1TooLong() {
+        due("first of all", Check.read(new LinkedVerse(), "abcdefghi;"), 1);
+        due("a number first of all", Check.read(new LinkedVerse(), "1234;"), 1);
+        read("abcdefghi", 1);
         read("kind a;", "abcdefghi;", 0, 1);
         read("kind ", "abcdefghi;", 0, 1);
         read("kind   ", "abcdefghijklmnopqrstuvwxyz;", 0, 1);
@@ -669,6 +678,10 @@ public final class TextEdgeTest {
         due("can", x.can(4), -1);
         due("bestOf", x.bestOf(0), -1);
         due("nothing is worn", x.breaks(0, 1, 2), -1);
+        due("no rules any more", Check.read(x, "kind a;length 2;"), 0);
+        x.type(0);
+        due("no link at the end", x.ends(), 1);
+        due("no link by a verse", x.verse(0, 0, -1, -1) + x.verse(0, 0, -1, -1), 3);
     }
 
     private static void nothingStays() {
@@ -688,6 +701,18 @@ public final class TextEdgeTest {
         due("the first verse", x.verse(0, 0, -1, -1), 1);
         due("its poet had none", x.poetOf(1, 1), 1);
         due("nor had the others", x.poetOf(0, 1) + x.poetOf(2, 1), 0);
+        LinkedVerse y = Rooms.simple("length 48;");
+        for (int place = 1; place <= 48; place++) {
+            Rooms.tell(y, 1);
+        }
+        y.worn(1, true);
+        y.worn(48, true);
+        due("two are worn", y.count(11), 2);
+        due("read", Check.read(y, "length 48;"), 0);
+        for (int place = 1; place <= 48; place++) {
+            due("told on " + place, Rooms.tell(y, 1), place);
+            due("not worn on " + place, y.verseOf(place, 5), 0);
+        }
     }
 
     private static void yearAndPoetsStay() {
