@@ -199,6 +199,10 @@ public final class EndEdgeTest {
             LinkedVerse v = types(Rooms.kinds(2) + "length 3;" + twelve("at 2-2 a;", "most b 1;", where), 2, 1);
             ends(v, "at as rule " + where, 1, 1 + 2 + 2 + 3);
             fulls(v, "at as rule " + where, 0, 1, 1);
+            LinkedVerse u = types(Rooms.kinds(2) + "length 48;" + twelve("most a 47;", "gap b 1;", where), 1, 0);
+            ends(u, "a number of 47 as rule " + where, 1, 1 + 2 + 4 * (47 * 48 / 2) - 1);
+            due("the 47th with a", u.full(47), 0);
+            due("no 48th", u.full(48), 1);
         }
     }
 
@@ -268,6 +272,15 @@ public final class EndEdgeTest {
         due("the first with d", y.full(48), 8);
         due("those with d", y.can(48), 768);
         due("all ten ahead", y.can(47), 1023);
+        last400th();
+    }
+
+    /** Only the row without a, which is laid down last, leads from the 400 states behind place 5 to the end. */
+    private static void last400th() {
+        LinkedVerse x = types(Rooms.kinds(5) + "length 10;most a 5;at 6-10 a;", 1, 3, 5, 7, 9, 11, 13, 15, 17, 2);
+        ends(x, "the 400th leads to the end", 1, 1 + 10 + 100 + 200 + 300 + 400 + 369 + 324 + 243 + 162 + 81);
+        fulls(x, "the 400th leads to the end", 9, 9, 9, 9, 9, 0, 0, 0, 0, 0);
+        cans(x, "the 400th leads to the end", 512, 512, 512, 512, 512, 511, 511, 511, 511, 511);
     }
 
     private static void tellEmpty(LinkedVerse x, int many) {
@@ -437,6 +450,14 @@ public final class EndEdgeTest {
         due("they are the end now", x.ends(), 1);
         fulls(x, "the end now", 0, 0);
         cans(x, "the end now", 3, 3);
+        Check.read(x, "kind a;length 3;at 3-3 a;most a 1;");
+        Rooms.addTypes(x, 0, 1);
+        due("one on the second leads nowhere", x.ends(), 1);
+        cans(x, "the last alone", 1, 1, 2);
+        Check.read(x, "kind a;length 2;least a 1;most a 1;");
+        Rooms.addTypes(x, 0, 1);
+        due("either is the end now", x.ends(), 1);
+        cans(x, "either", 3, 3);
         LinkedVerse y = Rooms.simple("length 2;link;");
         Rooms.addTypes(y, 1, 2);
         due("all free", y.ends(), 1);
