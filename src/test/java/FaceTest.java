@@ -32,6 +32,10 @@ public final class FaceTest {
             names.add(m.getName());
             check.same(line + " is public alone", m.getModifiers(), Modifier.PUBLIC);
         }
+        for (Method m : face.getDeclaredMethods()) {
+            boolean isHidden = Modifier.isPrivate(m.getModifiers());
+            check.same(m + " bears no name of the face", isHidden && names.contains(m.getName()), false);
+        }
         check.same("the methods " + seen, seen.equals(new TreeSet<>(Arrays.asList(FACE))), true);
         for (Field f : face.getDeclaredFields()) {
             boolean isFace = f.getName().equals("NONE");
